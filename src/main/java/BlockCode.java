@@ -70,8 +70,8 @@ public final class BlockCode {
         ready = false;
     }
 
-    // A key is only made, and a message only begun, on an object that is ready: where one of these is wanted,
-    // readiness need not be asked for as well.
+    // Only an object that is ready can have a key made or a message begun: the calls that want one of these
+    // need not ask for readiness as well.
 
     public void init() {
         ready = true;
@@ -389,7 +389,7 @@ public final class BlockCode {
         private final Key key;
         /** What the message so far comes to; the code when it has ended. */
         private final int[] sum;
-        /** How many bytes of the newest block are in the sum; it goes forth only when it is known not to be the last. */
+        /** How many bytes of the newest block are in the sum, which goes forth when that block is not the last. */
         private int filled;
         private boolean open;
         private boolean ended;

@@ -73,7 +73,7 @@ public final class ChainTest {
         Calls.putBlock(x, PLAIN[0]);
         byte[] block = HexFormat.of().parseHex(PLAIN[0]);
         byte[] before = new byte[16];
-        for (int k = 0; k < 64; k++) {
+        for (int k = 0; k < 24; k++) {
             boolean back = k % 3 == 1 || k % 7 == 2;
             byte[] was = block;
             block = back ? Oracle.xored(oracle.back(block), before) : oracle.forth(Oracle.xored(block, before));
