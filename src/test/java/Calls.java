@@ -1,3 +1,5 @@
+import java.util.HexFormat;
+
 /** Runs of calls on a BlockCode that many tests need; bytes are written as two hexadecimal digits each. */
 final class Calls {
     static final String ZEROS = "00000000000000000000000000000000";
@@ -90,7 +92,11 @@ final class Calls {
         return Integer.parseInt(hex.substring(2 * i, 2 * i + 2), 16);
     }
 
+    /** An answer that is neither a byte nor -1 is shown too, so that it can't be taken for one. */
     private static String shown(int b) {
-        return b == -1 ? "--" : String.format("%02x", b);
+        if (b < 0 || b > 255) {
+            return b == -1 ? "--" : "<" + b + ">";
+        }
+        return HexFormat.of().toHexDigits((byte) b);
     }
 }

@@ -1,13 +1,41 @@
-/** Counts and prints the answers that are not the ones that are due. */
+/** Counts and prints the answers that are not the ones that are due, each with the sentence that it breaks. */
 final class Due {
+    private String sentence = "";
+    private int sentences = 0;
+    private int answersBefore = 0;
     private int answers = 0;
     private int wrong = 0;
+
+    /** What follows tests this sentence of a promise, until the next sentence is named. */
+    void promise(int number, String words) {
+        begin("promise " + number + ", \"" + words + "\": ");
+    }
+
+    /** The same for a sentence of the document that stands before the promises. */
+    void terms(String words) {
+        begin("terms, \"" + words + "\": ");
+    }
+
+    private void begin(String next) {
+        endSentence();
+        sentence = next;
+        sentences++;
+        answersBefore = answers;
+    }
+
+    /** A sentence under which no answer was looked at is not tested, whatever the file says. */
+    private void endSentence() {
+        if (sentences > 0 && answers == answersBefore) {
+            wrong++;
+            System.out.println(sentence + "no answer was looked at");
+        }
+    }
 
     void same(String call, long got, long want) {
         answers++;
         if (got != want) {
             wrong++;
-            System.out.println(call + " answered " + got + ", due is " + want);
+            System.out.println(sentence + call + " answered " + got + ", due is " + want);
         }
     }
 
@@ -15,7 +43,7 @@ final class Due {
         answers++;
         if (!got.equals(want)) {
             wrong++;
-            System.out.println(call + " gave " + got + ", due is " + want);
+            System.out.println(sentence + call + " gave " + got + ", due is " + want);
         }
     }
 
@@ -29,7 +57,9 @@ final class Due {
 
     /** Ends the program: with exit code 1 if an answer was wrong, or if none was looked at. */
     void close() {
-        System.out.println(answers + " answers looked at, " + wrong + " wrong");
+        endSentence();
+        String of = sentences > 0 ? " for " + sentences + " sentences" : "";
+        System.out.println(answers + " answers looked at" + of + ", " + wrong + " wrong");
         System.exit(wrong == 0 && answers > 0 ? 0 : 1);
     }
 }
