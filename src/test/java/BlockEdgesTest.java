@@ -12,23 +12,24 @@ public final class BlockEdgesTest {
     private static final Due due = new Due();
 
     public static void main(String[] args) {
-        setBlockByteAtItsFirstAndLastPlace();
-        setBlockByteOfNoPlace();
-        setBlockByteOfTheLeastAndTheGreatestByte();
-        setBlockByteOfNoByte();
-        setBlockByteWantsItReady();
-        forthOfTheLeastAndTheGreatestBlock();
-        forthWantsAKeyThatIsMade();
-        backOfTheLeastAndTheGreatestBlock();
-        backWantsAKeyThatIsMade();
-        theFirstOfAChainForth();
-        theFirstOfAChainBack();
-        chainForthOfTheOneBeforeItself();
-        chainBackKeepsTheBlockAsItWas();
-        chainWantsAKeyThatIsMade();
-        blockByteAtItsFirstAndLastPlace();
-        blockByteOfNoPlace();
-        blockByteWantsItReady();
+        due.each(
+            BlockEdgesTest::setBlockByteAtItsFirstAndLastPlace,
+            BlockEdgesTest::setBlockByteOfNoPlace,
+            BlockEdgesTest::setBlockByteOfTheLeastAndTheGreatestByte,
+            BlockEdgesTest::setBlockByteOfNoByte,
+            BlockEdgesTest::setBlockByteWantsItReady,
+            BlockEdgesTest::forthOfTheLeastAndTheGreatestBlock,
+            BlockEdgesTest::forthWantsAKeyThatIsMade,
+            BlockEdgesTest::backOfTheLeastAndTheGreatestBlock,
+            BlockEdgesTest::backWantsAKeyThatIsMade,
+            BlockEdgesTest::theFirstOfAChainForth,
+            BlockEdgesTest::theFirstOfAChainBack,
+            BlockEdgesTest::chainForthOfTheOneBeforeItself,
+            BlockEdgesTest::chainBackKeepsTheBlockAsItWas,
+            BlockEdgesTest::chainWantsAKeyThatIsMade,
+            BlockEdgesTest::blockByteAtItsFirstAndLastPlace,
+            BlockEdgesTest::blockByteOfNoPlace,
+            BlockEdgesTest::blockByteWantsItReady);
         due.close();
     }
 

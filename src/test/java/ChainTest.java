@@ -13,13 +13,13 @@ public final class ChainTest {
     private static final Due due = new Due();
 
     public static void main(String[] args) {
-        knownChainForth();
-        knownChainBack();
-        chainsAfterUnchain();
-        forthAndBackTakeTurns();
-        chainWantsAKeyThatIsMade();
-        theChainLeavesTheMessageAlone();
-        aKeyChangeKeepsTheOneBefore();
+        due.each(
+            ChainTest::knownChainForth,
+            ChainTest::knownChainBack,
+            ChainTest::chainsAfterUnchain,
+            ChainTest::forthAndBackTakeTurns,
+            ChainTest::theChainLeavesTheMessageAlone,
+            ChainTest::aKeyChangeKeepsTheOneBefore);
         due.close();
     }
 
@@ -81,18 +81,6 @@ public final class ChainTest {
             due.yes("chain(" + back + ")", x.chain(back));
             due.same("chain step " + k, Calls.block(x), HexFormat.of().formatHex(block));
         }
-    }
-
-    private static void chainWantsAKeyThatIsMade() {
-        BlockCode x = chainedFrom(VECTOR);
-        x.setKeyByte(0, 0x2b);
-        Calls.putBlock(x, PLAIN[0]);
-        due.no("chain(false) without a key made", x.chain(false));
-        due.no("chain(true) without a key made", x.chain(true));
-        due.same("block after refusals", Calls.block(x), PLAIN[0]);
-        x.expand();
-        x.chain(false);
-        due.same("the one before after refusals", Calls.block(x), SECRET[0]);
     }
 
     private static void theChainLeavesTheMessageAlone() {

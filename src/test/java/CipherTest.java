@@ -6,13 +6,11 @@ public final class CipherTest {
     private static final Due due = new Due();
 
     public static void main(String[] args) {
-        eachByteOfTheBlockIsHeld();
-        wrongBytesAreRefused();
-        theBlockNeedsNoKey();
-        knownBlocks();
-        manyBlocks();
-        forthAndBackWantAKeyThatIsMade();
-        theWaysLeaveTheRestAlone();
+        due.each(
+            CipherTest::eachByteOfTheBlockIsHeld,
+            CipherTest::knownBlocks,
+            CipherTest::manyBlocks,
+            CipherTest::theWaysLeaveTheRestAlone);
         due.close();
     }
 
@@ -27,29 +25,6 @@ public final class CipherTest {
                 due.same("blockByte(" + other + ")", x.blockByte(other), beside);
             }
         }
-    }
-
-    private static void wrongBytesAreRefused() {
-        BlockCode x = Calls.ready();
-        Calls.putBlock(x, Calls.KEY);
-        for (int i : new int[] {-1, 16, 17, Integer.MIN_VALUE, Integer.MAX_VALUE}) {
-            due.no("setBlockByte(" + i + ", 1)", x.setBlockByte(i, 1));
-            due.same("blockByte(" + i + ")", x.blockByte(i), -1);
-        }
-        for (int b : new int[] {-1, 256, 257, Integer.MIN_VALUE, Integer.MAX_VALUE}) {
-            due.no("setBlockByte(3, " + b + ")", x.setBlockByte(3, b));
-        }
-        due.same("block after refusals", Calls.block(x), Calls.KEY);
-    }
-
-    private static void theBlockNeedsNoKey() {
-        BlockCode x = Calls.made(Calls.KEY);
-        Calls.putBlock(x, Calls.KEY);
-        x.setKeyByte(0, 0);
-        due.same("block without a key made", Calls.block(x), Calls.KEY);
-        due.yes("setBlockByte(0, 9) without a key made", x.setBlockByte(0, 9));
-        due.same("blockByte(0) without a key made", x.blockByte(0), 9);
-        due.no("setBlockByte makes no key", x.encryptBlock());
     }
 
     private static void known(String key, String plain, String secret) {
@@ -92,17 +67,6 @@ public final class CipherTest {
             x.decryptBlock();
             due.same(hex + " back", Calls.block(x), oracle.back(hex));
         }
-    }
-
-    private static void forthAndBackWantAKeyThatIsMade() {
-        BlockCode x = Calls.ready();
-        Calls.putBlock(x, Calls.KEY);
-        due.no("encryptBlock() after init", x.encryptBlock());
-        due.no("decryptBlock() after init", x.decryptBlock());
-        Calls.putKey(x, Calls.KEY);
-        due.no("encryptBlock() before expand", x.encryptBlock());
-        due.no("decryptBlock() before expand", x.decryptBlock());
-        due.same("block after refusals", Calls.block(x), Calls.KEY);
     }
 
     /** The block alone changes: not the one before, not a message, not a code. */

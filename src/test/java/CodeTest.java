@@ -8,21 +8,12 @@ public final class CodeTest {
     private static final Due due = new Due();
 
     public static void main(String[] args) {
-        knownCodes();
-        codesOfEveryShortLength();
-        fillIsAsUpdate();
-        fillAtItsEdges();
-        fillWrapsAround();
-        fillAndUpdateTakeTurns();
-        fillRefusesWrongInputs();
-        updateRefusesWrongInputs();
-        startWantsAKeyThatIsMade();
-        startDropsTheMessageBefore();
-        startDropsTheCodeBefore();
-        withoutAMessage();
-        afterTheEnd();
-        tagByteRefusesWrongInputs();
-        manyMessagesOneAfterAnother();
+        due.each(
+            CodeTest::knownCodes,
+            CodeTest::codesOfEveryShortLength,
+            CodeTest::fillIsAsUpdate,
+            CodeTest::fillAndUpdateTakeTurns,
+            CodeTest::manyMessagesOneAfterAnother);
         due.close();
     }
 
@@ -79,24 +70,6 @@ public final class CodeTest {
         fill(300, 0, -1);
     }
 
-    private static void fillAtItsEdges() {
-        fill(0, 1, 1);
-        fill(1, 1, 1);
-        fill(9999, 3, 5);
-        fill(10000, 3, 5);
-    }
-
-    private static void fillWrapsAround() {
-        int[] extremes = {Integer.MIN_VALUE, Integer.MIN_VALUE + 1, -257, -256, -1, 256, 511, Integer.MAX_VALUE};
-        for (int v : extremes) {
-            for (int step : extremes) {
-                fill(40, v, step);
-            }
-        }
-        fill(10000, Integer.MAX_VALUE, Integer.MAX_VALUE);
-        fill(10000, Integer.MIN_VALUE, Integer.MIN_VALUE + 3);
-    }
-
     private static void fillAndUpdateTakeTurns() {
         StringBuilder message = new StringBuilder();
         BlockCode x = Calls.made(Calls.KEY);
@@ -110,96 +83,6 @@ public final class CodeTest {
         x.macFill(0, 9, 9);
         x.macFinish();
         due.same("code of turns", Calls.tag(x), new Oracle(Calls.KEY).code(message.toString()));
-    }
-
-    private static void fillRefusesWrongInputs() {
-        BlockCode x = Calls.made(Calls.KEY);
-        x.macStart();
-        for (int n : new int[] {-1, 10001, 10002, Integer.MIN_VALUE, Integer.MAX_VALUE}) {
-            due.no("macFill(" + n + ", 1, 1)", x.macFill(n, 1, 1));
-        }
-        due.yes("macFinish() after refusals", x.macFinish());
-        due.same("code after refusals", Calls.tag(x), OF_NOTHING);
-    }
-
-    private static void updateRefusesWrongInputs() {
-        BlockCode x = Calls.made(Calls.KEY);
-        x.macStart();
-        for (int b : new int[] {-1, 256, 257, Integer.MIN_VALUE, Integer.MAX_VALUE}) {
-            due.no("macUpdate(" + b + ")", x.macUpdate(b));
-        }
-        due.yes("macFinish() after refusals", x.macFinish());
-        due.same("code after refusals", Calls.tag(x), OF_NOTHING);
-        x.macStart();
-        due.yes("macUpdate(0)", x.macUpdate(0));
-        due.yes("macUpdate(255)", x.macUpdate(255));
-        x.macFinish();
-        due.same("code of the least and the greatest byte", Calls.tag(x), new Oracle(Calls.KEY).code("00ff"));
-    }
-
-    private static void startWantsAKeyThatIsMade() {
-        BlockCode x = Calls.ready();
-        due.no("macStart() after init", x.macStart());
-        Calls.putKey(x, Calls.KEY);
-        due.no("macStart() before expand", x.macStart());
-        due.no("macUpdate(1) after that", x.macUpdate(1));
-        due.no("macFinish() after that", x.macFinish());
-        x.expand();
-        due.no("macFinish() after expand alone", x.macFinish());
-        due.yes("macStart() after expand", x.macStart());
-    }
-
-    private static void startDropsTheMessageBefore() {
-        for (int length : new int[] {1, 15, 16, 17, 32}) {
-            BlockCode x = Calls.made(Calls.KEY);
-            x.macStart();
-            x.macFill(length, 1, 1);
-            due.yes("macStart() in a message", x.macStart());
-            x.macFinish();
-            due.same("code of nothing after " + length + " bytes dropped", Calls.tag(x), OF_NOTHING);
-        }
-    }
-
-    private static void startDropsTheCodeBefore() {
-        BlockCode x = Calls.made(Calls.KEY);
-        Calls.compareAll(x, Calls.code(x, LONG));
-        due.yes("macVerdict()", x.macVerdict());
-        due.yes("macStart() after a code", x.macStart());
-        due.same("tag in a message", Calls.tag(x), Calls.none());
-        due.no("macCheck(0, 0) in a message", x.macCheck(0, 0));
-        due.no("macVerdict() in a message", x.macVerdict());
-    }
-
-    private static void withoutAMessage() {
-        BlockCode x = Calls.made(Calls.KEY);
-        due.no("macUpdate(0) without a message", x.macUpdate(0));
-        due.no("macFill(0, 0, 0) without a message", x.macFill(0, 0, 0));
-        due.no("macFill(1, 0, 0) without a message", x.macFill(1, 0, 0));
-        due.no("macFinish() without a message", x.macFinish());
-        due.same("tag without a message", Calls.tag(x), Calls.none());
-        due.no("macVerdict() without a message", x.macVerdict());
-    }
-
-    private static void afterTheEnd() {
-        BlockCode x = Calls.made(Calls.KEY);
-        Calls.compareAll(x, Calls.code(x, LONG));
-        String picture = Calls.picture(x);
-        due.no("macUpdate(0) after the end", x.macUpdate(0));
-        due.no("macFill(0, 0, 0) after the end", x.macFill(0, 0, 0));
-        due.no("macFill(20, 0, 0) after the end", x.macFill(20, 0, 0));
-        due.no("macFinish() after the end", x.macFinish());
-        due.same("all after the end", Calls.picture(x), picture);
-        due.yes("macVerdict() after the end", x.macVerdict());
-    }
-
-    private static void tagByteRefusesWrongInputs() {
-        BlockCode x = Calls.made(Calls.KEY);
-        Calls.code(x, "");
-        for (int i : new int[] {-1, 16, 17, Integer.MIN_VALUE, Integer.MAX_VALUE}) {
-            due.same("tagByte(" + i + ")", x.tagByte(i), -1);
-        }
-        due.same("tagByte(0)", x.tagByte(0), 0xbb);
-        due.same("tagByte(15)", x.tagByte(15), 0x46);
     }
 
     private static void manyMessagesOneAfterAnother() {

@@ -8,18 +8,19 @@ public final class CompareEdgesTest {
     private static final Due due = new Due();
 
     public static void main(String[] args) {
-        checkOfNumbersThatAreNoBytes();
-        checkOfNumbersWithTheRightLowestBits();
-        checkOfTheLeastAndTheGreatestByte();
-        checkAtItsFirstAndLastPlace();
-        checkOfNoPlace();
-        checkWantsACode();
-        verdictOfNoneAndOfAll();
-        verdictWithoutOneOfSixteen();
-        verdictOfOneByteSixteenTimes();
-        verdictOfComparisonsBeforeTheCode();
-        verdictOfAByteThatWasOtherOnce();
-        verdictWithoutACode();
+        due.each(
+            CompareEdgesTest::checkOfNumbersThatAreNoBytes,
+            CompareEdgesTest::checkOfNumbersWithTheRightLowestBits,
+            CompareEdgesTest::checkOfTheLeastAndTheGreatestByte,
+            CompareEdgesTest::checkAtItsFirstAndLastPlace,
+            CompareEdgesTest::checkOfNoPlace,
+            CompareEdgesTest::checkWantsACode,
+            CompareEdgesTest::verdictOfNoneAndOfAll,
+            CompareEdgesTest::verdictWithoutOneOfSixteen,
+            CompareEdgesTest::verdictOfOneByteSixteenTimes,
+            CompareEdgesTest::verdictOfComparisonsBeforeTheCode,
+            CompareEdgesTest::verdictOfAByteThatWasOtherOnce,
+            CompareEdgesTest::verdictWithoutACode);
         due.close();
     }
 

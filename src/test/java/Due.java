@@ -6,6 +6,19 @@ final class Due {
     private int answers = 0;
     private int wrong = 0;
 
+    /** A test that throws has failed, but the ones behind it are run all the same. */
+    void each(Runnable... tests) {
+        for (Runnable test : tests) {
+            try {
+                test.run();
+            } catch (RuntimeException e) {
+                answers++;
+                wrong++;
+                System.out.println(sentence + "threw " + e);
+            }
+        }
+    }
+
     /** What follows tests this sentence of a promise, until the next sentence is named. */
     void promise(int number, String words) {
         begin("promise " + number + ", \"" + words + "\": ");

@@ -17,10 +17,11 @@ public final class FaceTest {
     private static final Due due = new Due();
 
     public static void main(String[] args) {
-        theClass();
-        theMethods();
-        theFields();
-        theClassesInside();
+        due.each(
+            FaceTest::theClass,
+            FaceTest::theMethods,
+            FaceTest::theFields,
+            FaceTest::theClassesInside);
         due.close();
     }
 

@@ -10,20 +10,21 @@ public final class KeyEdgesTest {
     private static final Due due = new Due();
 
     public static void main(String[] args) {
-        setKeyByteUnmakesTheKey();
-        setKeyByteDropsTheMessage();
-        setKeyByteAtItsFirstAndLastPlace();
-        setKeyByteOfNoPlace();
-        setKeyByteOfTheLeastAndTheGreatestByte();
-        setKeyByteOfNoByte();
-        setKeyByteWantsItReady();
-        expandMakesAnyKey();
-        expandChangesNothingElse();
-        expandWantsItReady();
-        halfAtItsFirstAndLastByte();
-        halfWantsAKeyThatIsMade();
-        noneSuchHalf();
-        noneSuchByte();
+        due.each(
+            KeyEdgesTest::setKeyByteUnmakesTheKey,
+            KeyEdgesTest::setKeyByteDropsTheMessage,
+            KeyEdgesTest::setKeyByteAtItsFirstAndLastPlace,
+            KeyEdgesTest::setKeyByteOfNoPlace,
+            KeyEdgesTest::setKeyByteOfTheLeastAndTheGreatestByte,
+            KeyEdgesTest::setKeyByteOfNoByte,
+            KeyEdgesTest::setKeyByteWantsItReady,
+            KeyEdgesTest::expandMakesAnyKey,
+            KeyEdgesTest::expandChangesNothingElse,
+            KeyEdgesTest::expandWantsItReady,
+            KeyEdgesTest::halfAtItsFirstAndLastByte,
+            KeyEdgesTest::halfWantsAKeyThatIsMade,
+            KeyEdgesTest::noneSuchHalf,
+            KeyEdgesTest::noneSuchByte);
         due.close();
     }
 

@@ -14,26 +14,27 @@ public final class MessageEdgesTest {
     private static final Due due = new Due();
 
     public static void main(String[] args) {
-        startMakesAnotherMessageNone();
-        startWantsAKeyThatIsMade();
-        updateWantsAMessage();
-        updateOfTheLeastAndTheGreatestByte();
-        updateOfNoByte();
-        updateAcrossTheEndOfABlock();
-        fillPastTheGreatestByte();
-        fillPastTheGreatestNumber();
-        fillOfLongSums();
-        fillAcrossTheEndOfABlock();
-        fillOfNone();
-        fillOfTheMost();
-        fillOfTooFewOrTooMany();
-        fillWantsAMessage();
-        finishOfEveryMessage();
-        finishForgetsComparisons();
-        finishWantsAMessage();
-        tagByteAtItsFirstAndLastByte();
-        tagByteWantsACode();
-        tagByteOfNoPlace();
+        due.each(
+            MessageEdgesTest::startMakesAnotherMessageNone,
+            MessageEdgesTest::startWantsAKeyThatIsMade,
+            MessageEdgesTest::updateWantsAMessage,
+            MessageEdgesTest::updateOfTheLeastAndTheGreatestByte,
+            MessageEdgesTest::updateOfNoByte,
+            MessageEdgesTest::updateAcrossTheEndOfABlock,
+            MessageEdgesTest::fillPastTheGreatestByte,
+            MessageEdgesTest::fillPastTheGreatestNumber,
+            MessageEdgesTest::fillOfLongSums,
+            MessageEdgesTest::fillAcrossTheEndOfABlock,
+            MessageEdgesTest::fillOfNone,
+            MessageEdgesTest::fillOfTheMost,
+            MessageEdgesTest::fillOfTooFewOrTooMany,
+            MessageEdgesTest::fillWantsAMessage,
+            MessageEdgesTest::finishOfEveryMessage,
+            MessageEdgesTest::finishForgetsComparisons,
+            MessageEdgesTest::finishWantsAMessage,
+            MessageEdgesTest::tagByteAtItsFirstAndLastByte,
+            MessageEdgesTest::tagByteWantsACode,
+            MessageEdgesTest::tagByteOfNoPlace);
         due.close();
     }
 

@@ -4,18 +4,12 @@ public final class ReadinessTest {
     private static final Due due = new Due();
 
     public static void main(String[] args) {
-        aNewObjectRefusesAllButInit();
-        refusedCallsOnANewObjectLeaveNothing();
-        aNewObjectHoldsZeros();
-        initMakesReadyAndNoMore();
-        initForgetsTheKey();
-        initForgetsTheMessage();
-        initForgetsTheCode();
-        initKeepsTheBlock();
-        initKeepsTheOneBefore();
-        unchainClearsTheOneBefore();
-        unchainWantsNoKey();
-        objectsShareNothing();
+        due.each(
+            ReadinessTest::refusedCallsOnANewObjectLeaveNothing,
+            ReadinessTest::initMakesReadyAndNoMore,
+            ReadinessTest::initKeepsTheOneBefore,
+            ReadinessTest::unchainClearsTheOneBefore,
+            ReadinessTest::objectsShareNothing);
         due.close();
     }
 
@@ -41,12 +35,6 @@ public final class ReadinessTest {
         due.same("new: half(1, 15)", x.half(1, 15), -1);
     }
 
-    private static void aNewObjectRefusesAllButInit() {
-        BlockCode x = new BlockCode();
-        refusesAll(x);
-        refusesAll(x);
-    }
-
     private static void refusedCallsOnANewObjectLeaveNothing() {
         BlockCode x = new BlockCode();
         refusesAll(x);
@@ -57,14 +45,6 @@ public final class ReadinessTest {
         x.expand();
         x.encryptBlock();
         due.same("the key after refusals is zeros", Calls.block(x), "66e94bd4ef8a2c3b884cfa59ca342b2e");
-    }
-
-    private static void aNewObjectHoldsZeros() {
-        BlockCode x = Calls.ready();
-        due.same("block", Calls.block(x), Calls.ZEROS);
-        x.expand();
-        x.chain(false);
-        due.same("zeros chained under zeros", Calls.block(x), "66e94bd4ef8a2c3b884cfa59ca342b2e");
     }
 
     private static void initMakesReadyAndNoMore() {
@@ -85,47 +65,6 @@ public final class ReadinessTest {
         due.yes("init: unchain()", x.unchain());
         due.yes("init: setKeyByte(0, 1)", x.setKeyByte(0, 1));
         due.yes("init: expand()", x.expand());
-    }
-
-    private static void initForgetsTheKey() {
-        BlockCode x = Calls.made(Calls.KEY);
-        x.init();
-        due.no("init again: encryptBlock()", x.encryptBlock());
-        due.same("init again: half", Calls.half(x, 0), Calls.none());
-        x.expand();
-        x.encryptBlock();
-        due.same("init again: the key is zeros", Calls.block(x), "66e94bd4ef8a2c3b884cfa59ca342b2e");
-    }
-
-    private static void initForgetsTheMessage() {
-        BlockCode x = Calls.made(Calls.KEY);
-        x.macStart();
-        x.macUpdate(1);
-        x.init();
-        due.no("init in a message: macUpdate(2)", x.macUpdate(2));
-        due.no("init in a message: macFill(0, 0, 0)", x.macFill(0, 0, 0));
-        due.no("init in a message: macFinish()", x.macFinish());
-        x.expand();
-        due.no("init in a message, expand: macFinish()", x.macFinish());
-    }
-
-    private static void initForgetsTheCode() {
-        BlockCode x = Calls.made(Calls.KEY);
-        Calls.compareAll(x, Calls.code(x, SOME));
-        due.yes("before init: macVerdict()", x.macVerdict());
-        x.init();
-        due.same("init after a code: tag", Calls.tag(x), Calls.none());
-        due.no("init after a code: macCheck(0, 0)", x.macCheck(0, 0));
-        due.no("init after a code: macVerdict()", x.macVerdict());
-        x.expand();
-        due.same("init after a code, expand: tag", Calls.tag(x), Calls.none());
-    }
-
-    private static void initKeepsTheBlock() {
-        BlockCode x = Calls.ready();
-        Calls.putBlock(x, SOME);
-        x.init();
-        due.same("init keeps the block", Calls.block(x), SOME);
     }
 
     private static void initKeepsTheOneBefore() {
@@ -153,18 +92,6 @@ public final class ReadinessTest {
         x.unchain();
         x.chain(true);
         due.same("chain(true) after unchain", Calls.block(x), Calls.ZEROS);
-    }
-
-    private static void unchainWantsNoKey() {
-        BlockCode x = Calls.made(Calls.ZEROS);
-        Calls.putBlock(x, SOME);
-        x.chain(false);
-        x.setKeyByte(3, 0);
-        due.yes("unchain() without a key made", x.unchain());
-        x.expand();
-        Calls.putBlock(x, Calls.ZEROS);
-        x.chain(false);
-        due.same("chain after that", Calls.block(x), "66e94bd4ef8a2c3b884cfa59ca342b2e");
     }
 
     private static void objectsShareNothing() {

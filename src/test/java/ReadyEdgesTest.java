@@ -8,18 +8,19 @@ public final class ReadyEdgesTest {
     private static final Due due = new Due();
 
     public static void main(String[] args) {
-        allButInitWantItReady();
-        aNewKeyIsZeros();
-        aNewBlockIsZeros();
-        aNewOneBeforeIsZeros();
-        initMakesReady();
-        initClearsTheKey();
-        initUnmakesTheKey();
-        initDropsTheMessage();
-        initKeepsTheBlock();
-        initKeepsTheOneBefore();
-        unchainOfAnyOneBefore();
-        unchainWantsItReady();
+        due.each(
+            ReadyEdgesTest::allButInitWantItReady,
+            ReadyEdgesTest::aNewKeyIsZeros,
+            ReadyEdgesTest::aNewBlockIsZeros,
+            ReadyEdgesTest::aNewOneBeforeIsZeros,
+            ReadyEdgesTest::initMakesReady,
+            ReadyEdgesTest::initClearsTheKey,
+            ReadyEdgesTest::initUnmakesTheKey,
+            ReadyEdgesTest::initDropsTheMessage,
+            ReadyEdgesTest::initKeepsTheBlock,
+            ReadyEdgesTest::initKeepsTheOneBefore,
+            ReadyEdgesTest::unchainOfAnyOneBefore,
+            ReadyEdgesTest::unchainWantsItReady);
         due.close();
     }
 

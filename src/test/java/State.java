@@ -118,9 +118,11 @@ enum State {
         Calls.putKey(x, Calls.KEY);
     }
 
+    /** The chain is behind the last expand, so that an expand that cut it would not have done so already. */
     private static void keyMade(BlockCode x) {
         keySet(x);
         x.expand();
+        x.chain(true);
     }
 
     private static void begun(BlockCode x, int length) {

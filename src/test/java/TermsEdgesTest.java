@@ -6,22 +6,23 @@ public final class TermsEdgesTest {
     private static final Due due = new Due();
 
     public static void main(String[] args) {
-        theLastOf512Calls();
-        theLeastAndTheGreatestByte();
-        productsThatWrapAround();
-        sOfZeroAndOfEveryByte();
-        theFirstWordBehindTheKey();
-        powersThatWrapAround();
-        placesThatWrapAround();
-        theLastRoundIsNotMixed();
-        backUndoesForth();
-        theHighestBitFallsOrNot();
-        theSecondHalfKey();
-        aWholeLastBlock();
-        anEmptyMessage();
-        aLastBlockThatIsNotWhole();
-        fromABlockOfZeros();
-        refusedCallsChangeNothing();
+        due.each(
+            TermsEdgesTest::theLastOf512Calls,
+            TermsEdgesTest::theLeastAndTheGreatestByte,
+            TermsEdgesTest::productsThatWrapAround,
+            TermsEdgesTest::sOfZeroAndOfEveryByte,
+            TermsEdgesTest::theFirstWordBehindTheKey,
+            TermsEdgesTest::powersThatWrapAround,
+            TermsEdgesTest::placesThatWrapAround,
+            TermsEdgesTest::theLastRoundIsNotMixed,
+            TermsEdgesTest::backUndoesForth,
+            TermsEdgesTest::theHighestBitFallsOrNot,
+            TermsEdgesTest::theSecondHalfKey,
+            TermsEdgesTest::aWholeLastBlock,
+            TermsEdgesTest::anEmptyMessage,
+            TermsEdgesTest::aLastBlockThatIsNotWhole,
+            TermsEdgesTest::fromABlockOfZeros,
+            TermsEdgesTest::refusedCallsChangeNothing);
         due.close();
     }
 
