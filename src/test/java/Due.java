@@ -24,9 +24,9 @@ final class Due {
         begin("promise " + number + ", \"" + words + "\": ");
     }
 
-    /** The same for a sentence of the document that stands before the promises. */
-    void terms(String words) {
-        begin("terms, \"" + words + "\": ");
+    /** The same for a sentence that stands before the promises, with the numbers of those that use it. */
+    void terms(String promises, String words) {
+        begin("promises " + promises + " by the terms, \"" + words + "\": ");
     }
 
     private void begin(String next) {

@@ -61,7 +61,7 @@ public final class TermsEdgesTest {
     }
 
     private static void theLastOf512Calls() {
-        due.terms("An object is used for at most 512 calls after it has been made");
+        due.terms("1 to 18", "An object is used for at most 512 calls after it has been made");
         BlockCode x = new BlockCode();
         x.init();
         x.expand();
@@ -86,7 +86,7 @@ public final class TermsEdgesTest {
     }
 
     private static void theLeastAndTheGreatestByte() {
-        due.terms("BYTES are 0 .. 255");
+        due.terms("3, 6 and 12", "BYTES are 0 .. 255");
         BlockCode x = Calls.made(Calls.KEY);
         x.macStart();
         for (int b : new int[] {0, 255}) {
@@ -107,7 +107,7 @@ public final class TermsEdgesTest {
 
     /** Bytes that S makes 127 and 128 are mixed: twice the one just fits, twice the other wraps around. */
     private static void productsThatWrapAround() {
-        due.terms("products as polynomials over bits modulo x^8 + x^4 + x^3 + x + 1");
+        due.terms("4, 13 and 14", "products as polynomials over bits modulo x^8 + x^4 + x^3 + x + 1");
         for (int want : new int[] {0, 1, 127, 128, 255}) {
             for (int b = 0; b < 256; b++) {
                 if (Terms.s(b) == want) {
@@ -120,7 +120,7 @@ public final class TermsEdgesTest {
 
     /** A block that is the key but for a byte b in each place is b in each place when it first goes through S. */
     private static void sOfZeroAndOfEveryByte() {
-        due.terms("let c be that byte whose product with b is 1 (0 for 0)");
+        due.terms("4, 13 and 14", "let c be that byte whose product with b is 1 (0 for 0)");
         due.same("zeros forth under zeros", forth(Calls.ZEROS, Calls.ZEROS), "66e94bd4ef8a2c3b884cfa59ca342b2e");
         for (int b = 0; b < 256; b++) {
             bothWays(Calls.KEY, xored(Calls.KEY, times(b)));
@@ -129,7 +129,7 @@ public final class TermsEdgesTest {
 
     /** w3's bytes are turned round: each of them alone shows where it goes. */
     private static void theFirstWordBehindTheKey() {
-        due.terms("but where 4 divides i: w(i - 1) turned left by 8 bits");
+        due.terms("4", "but where 4 divides i: w(i - 1) turned left by 8 bits");
         for (int i = 0; i < 16; i++) {
             bothWays(alone(i, 1), Calls.ZEROS);
             bothWays(alone(i, 255), Calls.ZEROS);
@@ -138,7 +138,7 @@ public final class TermsEdgesTest {
 
     /** The ninth power wraps around and the tenth comes of it: FIPS 197 (A.1, B and C.1) has both in every key. */
     private static void powersThatWrapAround() {
-        due.terms("the (i / 4)-th of 1, 2, 4, .. (each twice the one before, in the field)");
+        due.terms("4", "the (i / 4)-th of 1, 2, 4, .. (each twice the one before, in the field)");
         due.same("FIPS 197, C.1", forth(COUNTED, "00112233445566778899aabbccddeeff"),
             "69c4e0d86a7b0430d8cdb78070b4c55a");
         due.same("FIPS 197, B", forth(Calls.KEY, "3243f6a8885a308d313198a2e0370734"),
@@ -147,7 +147,7 @@ public final class TermsEdgesTest {
     }
 
     private static void placesThatWrapAround() {
-        due.terms("byte 4 c + r becomes what byte 4 ((c + r) modulo 4) + r was");
+        due.terms("13 and 14", "byte 4 c + r becomes what byte 4 ((c + r) modulo 4) + r was");
         for (int i = 0; i < 16; i++) {
             bothWays(Calls.ZEROS, alone(i, 1));
             bothWays(COUNTED, alone(i, 255));
@@ -155,13 +155,13 @@ public final class TermsEdgesTest {
     }
 
     private static void theLastRoundIsNotMixed() {
-        due.terms("but for k = 10 not");
+        due.terms("13 and 14", "but for k = 10 not");
         due.same("zeros forth under the key", forth(Calls.KEY, Calls.ZEROS), Terms.forth(Calls.KEY, Calls.ZEROS));
         due.same("zeros back under the key", Terms.forth(Calls.KEY, back(Calls.KEY, Calls.ZEROS)), Calls.ZEROS);
     }
 
     private static void backUndoesForth() {
-        due.terms("BACK is what undoes that");
+        due.terms("14", "BACK is what undoes that");
         for (int b : new int[] {0, 1, 127, 128, 254, 255}) {
             String plain = times(b);
             due.same(plain + " forth and back", back(Calls.KEY, forth(Calls.KEY, plain)), plain);
@@ -172,7 +172,7 @@ public final class TermsEdgesTest {
 
     /** Keys under which the highest bit falls out of neither doubling, the second, the first, and both. */
     private static void theHighestBitFallsOrNot() {
-        due.terms("if the highest was 1, the last byte is xored with 135");
+        due.terms("4 and 18", "if the highest was 1, the last byte is xored with 135");
         boolean[] seen = new boolean[4];
         for (int b = 0; b < 64; b++) {
             String key = times(b);
@@ -188,7 +188,7 @@ public final class TermsEdgesTest {
 
     /** RFC 4493, the example of the half keys. */
     private static void theSecondHalfKey() {
-        due.terms("the block of zeros, forth, doubled; that doubled once more");
+        due.terms("4 and 18", "the block of zeros, forth, doubled; that doubled once more");
         BlockCode x = Calls.made(Calls.KEY);
         due.same("first half key", Calls.half(x, 0), "fbeed618357133667c85e08f7236a8de");
         due.same("second half key", Calls.half(x, 1), "f7ddac306ae266ccf90bc11ee46d513b");
@@ -201,7 +201,7 @@ public final class TermsEdgesTest {
     }
 
     private static void aWholeLastBlock() {
-        due.terms("the last one, if it is whole, is xored with the first half key");
+        due.terms("8 and 9", "the last one, if it is whole, is xored with the first half key");
         due.same("RFC 4493, 16 bytes", Calls.code(Calls.made(Calls.KEY), "6bc1bee22e409f96e93d7e117393172a"),
             "070a16b46b4d4144f79bdd9dd04a287c");
         for (int blocks = 1; blocks <= 4; blocks++) {
@@ -212,7 +212,7 @@ public final class TermsEdgesTest {
     }
 
     private static void anEmptyMessage() {
-        due.terms("otherwise (also the only one of an empty message)");
+        due.terms("8 and 9", "otherwise (also the only one of an empty message)");
         due.same("RFC 4493, no bytes", Calls.code(Calls.made(Calls.KEY), ""), "bb1d6929e95937287fa37d129b756746");
         code("");
         BlockCode x = Calls.made(Calls.KEY);
@@ -224,7 +224,7 @@ public final class TermsEdgesTest {
 
     /** Messages that look like the filling behind another have codes of their own. */
     private static void aLastBlockThatIsNotWhole() {
-        due.terms("a byte 128 comes behind it, and bytes 0 as far as it goes");
+        due.terms("8 and 9", "a byte 128 comes behind it, and bytes 0 as far as it goes");
         for (int length : new int[] {1, 14, 15, 17, 30, 31, 33}) {
             code(COUNTED.repeat(3).substring(0, 2 * length));
             code("00".repeat(length));
@@ -238,7 +238,7 @@ public final class TermsEdgesTest {
     }
 
     private static void fromABlockOfZeros() {
-        due.terms("From a block of zeros on: it is xored with each block in order, and goes forth");
+        due.terms("8 and 9", "From a block of zeros on: it is xored with each block in order, and goes forth");
         BlockCode x = Calls.made(Calls.KEY);
         for (String message : new String[] {COUNTED, "", COUNTED + Calls.KEY, Calls.KEY + COUNTED, "ff"}) {
             due.same("code of " + message + " behind another", Calls.code(x, message),
@@ -248,7 +248,8 @@ public final class TermsEdgesTest {
 
     /** Every call of the face that can be refused, once for each reason; the promises' own tests go on from here. */
     private static void refusedCallsChangeNothing() {
-        due.terms("Calls answer false (or -1) when something is not as they want it, and nothing changes then");
+        due.terms("1 to 18",
+            "Calls answer false (or -1) when something is not as they want it, and nothing changes then");
         Refusal.isFalse(due, State.that(s -> !s.isReady()), "expand()", x -> x.expand());
         Refusal.isFalse(due, State.that(s -> s.isReady()), "setKeyByte(16, 256)", x -> x.setKeyByte(16, 256));
         Refusal.isFalse(due, State.that(s -> s.isReady()), "setBlockByte(-1, -1)", x -> x.setBlockByte(-1, -1));
