@@ -63,7 +63,7 @@ public final class BlockCode {
 
     public BlockCode() {
         key = new Key();
-        message = new Message(key);
+        message = new Message();
         block = new int[SIZE];
         before = new int[SIZE];
         kept = new int[SIZE];
@@ -108,7 +108,7 @@ public final class BlockCode {
         if (!message.open || !isByte(b)) {
             return false;
         }
-        message.take(b);
+        message.take(b, key);
         return true;
     }
 
@@ -118,7 +118,7 @@ public final class BlockCode {
         }
         int next = v;
         for (int count = 0; count < n; count++) {
-            message.take(next & 255);
+            message.take(next & 255, key);
             // The sum may wrap around: its lowest eight bits are right all the same.
             next += step;
         }
@@ -129,7 +129,7 @@ public final class BlockCode {
         if (!message.open) {
             return false;
         }
-        message.end();
+        message.end(key);
         return true;
     }
 
@@ -384,9 +384,8 @@ public final class BlockCode {
         }
     }
 
-    /** A message under a key, and how its code has been compared. */
+    /** A message, and how its code has been compared. One key, which stays made, is given with all of a message. */
     private static final class Message {
-        private final Key key;
         /** What the message so far comes to; the code when it has ended. */
         private final int[] sum;
         /** How many bytes of the newest block are in the sum, which goes forth when that block is not the last. */
@@ -397,8 +396,7 @@ public final class BlockCode {
         private int compared;
         private boolean differed;
 
-        Message(Key key) {
-            this.key = key;
+        Message() {
             sum = new int[SIZE];
             filled = 0;
             open = false;
@@ -419,7 +417,7 @@ public final class BlockCode {
             ended = false;
         }
 
-        void take(int b) {
+        void take(int b, Key key) {
             if (filled == SIZE) {
                 key.goForth(sum);
                 filled = 0;
@@ -428,7 +426,7 @@ public final class BlockCode {
             filled++;
         }
 
-        void end() {
+        void end(Key key) {
             if (filled == SIZE) {
                 xor(sum, key.firstHalf, 0);
             } else {

@@ -32,6 +32,7 @@ public final class ChainTest {
     }
 
     private static void knownChainForth() {
+        due.promise(15, "forth: the block is xored with the one before, goes forth, and that is the one before then");
         BlockCode x = chainedFrom(VECTOR);
         for (int k = 0; k < PLAIN.length; k++) {
             Calls.putBlock(x, PLAIN[k]);
@@ -41,6 +42,7 @@ public final class ChainTest {
     }
 
     private static void knownChainBack() {
+        due.promise(15, "Back: it goes back, and is xored with the one before; as it was it is the one before then");
         BlockCode x = chainedFrom(VECTOR);
         for (int k = 0; k < PLAIN.length; k++) {
             Calls.putBlock(x, SECRET[k]);
@@ -50,6 +52,7 @@ public final class ChainTest {
     }
 
     private static void chainsAfterUnchain() {
+        due.promise(15, "CHAINED: what went forth in a chain from zeros goes back in one");
         BlockCode x = Calls.made(Calls.KEY);
         String[] secret = new String[PLAIN.length];
         for (int k = 0; k < PLAIN.length; k++) {
@@ -68,6 +71,7 @@ public final class ChainTest {
 
     /** The block is left as it is between the calls, and the ways are mixed. */
     private static void forthAndBackTakeTurns() {
+        due.promise(15, "CHAINED: forth and back in turns, by one and the same one before");
         Oracle oracle = new Oracle(Calls.KEY);
         BlockCode x = Calls.made(Calls.KEY);
         Calls.putBlock(x, PLAIN[0]);
@@ -84,6 +88,7 @@ public final class ChainTest {
     }
 
     private static void theChainLeavesTheMessageAlone() {
+        due.promise(15, "CHAINED: the block and the one before, and nothing else changes");
         BlockCode x = chainedFrom(VECTOR);
         x.macStart();
         Calls.feed(x, "6bc1bee22e409f96");
@@ -98,6 +103,7 @@ public final class ChainTest {
     }
 
     private static void aKeyChangeKeepsTheOneBefore() {
+        due.promise(15, "the one before: that of a chain under another key");
         BlockCode x = Calls.made(Calls.ZEROS);
         Calls.putBlock(x, VECTOR);
         x.chain(true);

@@ -16,17 +16,27 @@ final class Due {
                 wrong++;
                 System.out.println(sentence + "threw " + e);
             }
+            endSentence();
         }
     }
 
-    /** What follows tests this sentence of a promise, until the next sentence is named. */
+    /** What follows tests this sentence of a promise, until the next sentence is named or the test ends. */
     void promise(int number, String words) {
         begin("promise " + number + ", \"" + words + "\": ");
     }
 
-    /** The same for a sentence that stands before the promises, with the numbers of those that use it. */
+    /** The same for what stands outside the promises, with the numbers of those that use it. */
     void terms(String promises, String words) {
         begin("promises " + promises + " by the terms, \"" + words + "\": ");
+    }
+
+    /** What follows tests every promise beside the others. */
+    void allPromises(String words) {
+        begin("promises 1 to 18, " + words + ": ");
+    }
+
+    void face(String words) {
+        begin("the public face, " + words + ": ");
     }
 
     private void begin(String next) {
@@ -38,26 +48,19 @@ final class Due {
 
     /** A sentence under which no answer was looked at is not tested, whatever the file says. */
     private void endSentence() {
-        if (sentences > 0 && answers == answersBefore) {
+        if (!sentence.isEmpty() && answers == answersBefore) {
             wrong++;
             System.out.println(sentence + "no answer was looked at");
         }
+        sentence = "";
     }
 
     void same(String call, long got, long want) {
-        answers++;
-        if (got != want) {
-            wrong++;
-            System.out.println(sentence + call + " answered " + got + ", due is " + want);
-        }
+        count(got == want, call + " answered " + got + ", due is " + want);
     }
 
     void same(String call, String got, String want) {
-        answers++;
-        if (!got.equals(want)) {
-            wrong++;
-            System.out.println(sentence + call + " gave " + got + ", due is " + want);
-        }
+        count(got.equals(want), call + " gave " + got + ", due is " + want);
     }
 
     void yes(String call, boolean got) {
@@ -68,11 +71,22 @@ final class Due {
         same(call, got ? 1 : 0, 0);
     }
 
+    private void count(boolean right, String told) {
+        answers++;
+        if (!right) {
+            wrong++;
+            System.out.println(sentence + told);
+        }
+        if (sentence.isEmpty()) {
+            wrong++;
+            System.out.println("no sentence was named: " + told);
+        }
+    }
+
     /** Ends the program: with exit code 1 if an answer was wrong, or if none was looked at. */
     void close() {
         endSentence();
-        String of = sentences > 0 ? " for " + sentences + " sentences" : "";
-        System.out.println(answers + " answers looked at" + of + ", " + wrong + " wrong");
+        System.out.println(answers + " answers looked at for " + sentences + " sentences, " + wrong + " wrong");
         System.exit(wrong == 0 && answers > 0 ? 0 : 1);
     }
 }

@@ -8,6 +8,9 @@ public final class KeyTest {
     public static void main(String[] args) {
         due.each(
             KeyTest::eachByteOfTheKeyCounts,
+            KeyTest::aByteOfTheKeyIsPutAgain,
+            KeyTest::setKeyByteEndsKeyAndMessage,
+            KeyTest::setKeyByteLeavesTheRestAlone,
             KeyTest::expandMakesTheKeyAnew,
             KeyTest::expandLeavesAMessageAlone,
             KeyTest::knownHalfKeys,
@@ -16,6 +19,7 @@ public final class KeyTest {
     }
 
     private static void eachByteOfTheKeyCounts() {
+        due.promise(3, "Byte i of the key is b");
         for (int i = 0; i < 16; i++) {
             for (int b : new int[] {0, 1, 127, 128, 255}) {
                 BlockCode x = Calls.ready();
@@ -29,18 +33,70 @@ public final class KeyTest {
         }
     }
 
-    private static void expandMakesTheKeyAnew() {
+    /** The other bytes stay, and the last one put counts. */
+    private static void aByteOfTheKeyIsPutAgain() {
+        due.promise(3, "Byte i of the key is b: once more, and the others stay");
         BlockCode x = Calls.made(Calls.KEY);
-        due.yes("expand() of a key that is made", x.expand());
-        due.same("first half key", Calls.half(x, 0), "fbeed618357133667c85e08f7236a8de");
-        Calls.putKey(x, Calls.ZEROS);
+        for (int i = 0; i < 16; i++) {
+            due.yes("setKeyByte(" + i + ", 99)", x.setKeyByte(i, 99));
+            due.yes("setKeyByte(" + i + ", 7)", x.setKeyByte(i, 7));
+            x.expand();
+            String key = "07".repeat(i + 1) + Calls.KEY.substring(2 * i + 2);
+            due.same("first half key of " + key, Calls.half(x, 0),
+                HexFormat.of().formatHex(new Oracle(key).half(0)));
+        }
+    }
+
+    private static void setKeyByteEndsKeyAndMessage() {
+        due.promise(3, "it is not made then, and there is no message");
+        BlockCode x = Calls.made(Calls.KEY);
+        Calls.code(x, "6bc1");
+        due.yes("setKeyByte(4, 9)", x.setKeyByte(4, 9));
+        due.no("encryptBlock()", x.encryptBlock());
+        due.no("macStart()", x.macStart());
+        due.same("first half key", Calls.half(x, 0), Calls.none());
+        due.same("tag", Calls.tag(x), Calls.none());
         x.expand();
+        due.same("tag under the new key", Calls.tag(x), Calls.none());
+        x.macStart();
+        x.setKeyByte(4, 8);
+        x.expand();
+        due.no("macUpdate(1) of a message of another key", x.macUpdate(1));
+        due.no("macFinish() of it", x.macFinish());
+    }
+
+    private static void setKeyByteLeavesTheRestAlone() {
+        due.promise(3, "Byte i of the key is b, and the block and the one before stay");
+        BlockCode x = Calls.made(Calls.KEY);
+        Calls.putBlock(x, "00112233445566778899aabbccddeeff");
+        x.chain(false);
+        String block = Calls.block(x);
+        Calls.putKey(x, Calls.ZEROS);
+        due.same("block", Calls.block(x), block);
+        x.expand();
+        x.chain(false);
+        due.same("the block, which is the one before too, chained forth", Calls.block(x),
+            "66e94bd4ef8a2c3b884cfa59ca342b2e");
+    }
+
+    private static void expandMakesTheKeyAnew() {
+        due.promise(4, "The key is MADE (its words, its half keys)");
+        BlockCode x = Calls.ready();
+        Calls.putKey(x, Calls.KEY);
+        due.yes("expand()", x.expand());
+        due.same("first half key", Calls.half(x, 0), "fbeed618357133667c85e08f7236a8de");
+        due.same("second half key", Calls.half(x, 1), "f7ddac306ae266ccf90bc11ee46d513b");
+        due.yes("expand() of a key that is made", x.expand());
+        due.same("first half key again", Calls.half(x, 0), "fbeed618357133667c85e08f7236a8de");
+        Calls.putKey(x, Calls.ZEROS);
+        due.yes("expand() of zeros", x.expand());
         due.same("first half key of zeros", Calls.half(x, 0), "cdd297a9df1458771099f4b39468565c");
         x.encryptBlock();
         due.same("zeros forth under zeros", Calls.block(x), "66e94bd4ef8a2c3b884cfa59ca342b2e");
     }
 
     private static void expandLeavesAMessageAlone() {
+        due.promise(4, "The key is MADE, and a message goes on");
         BlockCode x = Calls.made(Calls.KEY);
         x.macStart();
         Calls.feed(x, "6bc1bee22e409f96e93d7e117393172aae2d8a57");
@@ -51,6 +107,7 @@ public final class KeyTest {
     }
 
     private static void knownHalfKeys() {
+        due.promise(18, "Byte i of the first (which = 0), the second half key (1)");
         BlockCode x = Calls.made(Calls.KEY);
         due.same("first half key", Calls.half(x, 0), "fbeed618357133667c85e08f7236a8de");
         due.same("second half key", Calls.half(x, 1), "f7ddac306ae266ccf90bc11ee46d513b");
@@ -58,6 +115,7 @@ public final class KeyTest {
 
     /** Enough keys that the highest bit is 0 and 1 before each doubling. */
     private static void manyHalfKeys() {
+        due.promise(18, "Byte i of the first (which = 0), the second half key (1): of many keys");
         Random random = new Random(18);
         for (int run = 0; run < 200; run++) {
             byte[] key = new byte[16];

@@ -12,6 +12,7 @@ public final class MixedRunsTest {
     private static final Due due = new Due();
 
     public static void main(String[] args) {
+        due.allPromises("in long runs of calls");
         for (int run = 0; run < RUNS; run++) {
             run(run, new Random(run));
         }
