@@ -384,7 +384,10 @@ public final class BlockCode {
         }
     }
 
-    /** A message, and how its code has been compared. One key, which stays made, is given with all of a message. */
+    /**
+     * A message, and how its code has been compared. The key that comes with each byte is the same one from the
+     * beginning to the end, and made: a change of it drops the message.
+     */
     private static final class Message {
         /** What the message so far comes to; the code when it has ended. */
         private final int[] sum;
